@@ -631,7 +631,6 @@ public final class CallDesk {
         reader[r + PHASE] = IN_TAG;
         reader[r + SUM] = 0;
         reader[r + DIGITS] = 0;
-        reader[r + FIELD] = SKIPPED;
         reader[r + ROW_END] = 0;
         reader[r + START] = reader[r + AT];
     }

@@ -76,6 +76,10 @@ public final class FramesTest {
         broken("empty DATA of an IDLE one", 2, 0, Line.DATA, 0, 1);
         broken("HEADERS of 0", 2, 1, Line.HEADERS, 0, 0);
         broken("HEADERS of one that was passed", 2, 1, Line.HEADERS, 0, 1);
+        Line passed = new Line().open(2, 0);
+        Check.same("passed by the next one alone", passed.head(1, Line.HEADERS, 0, 1), CallDesk.DOWN);
+        passed = new Line().open(7, 0);
+        Check.same("passed by the last one", passed.head(1, Line.HEADERS, 0, 6), CallDesk.DOWN);
         for (int sort = 2; sort <= 4; sort++) {
             broken("LENGTH 0 of sort " + sort, 1, 0, sort, 0, 3);
             broken("LENGTH 2 of sort " + sort, 1, 2, sort, 0, 0);

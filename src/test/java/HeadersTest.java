@@ -41,6 +41,8 @@ public final class HeadersTest {
         table(line, 0, pair(32, 7), pair(63, 2), pair(200, 1));
         line.frame(Line.HEADERS, 0, 3, 0, 255, 255, 129, 136);
         kept(line, 3, pair(255, 255), pair(1, 0), pair(200, 1));
+        line.frame(Line.HEADERS, 0, 4, 133, 129);
+        kept(line, 4, 0, pair(1, 0));
     }
 
     private static void firstEight() {
@@ -59,6 +61,10 @@ public final class HeadersTest {
         line.frame(Line.HEADERS, 0, 1, 2, 0, 1, 2, 129);
         line.frame(Line.DATA, 0, 1, 0, 0, 0);
         Check.same("the first one with name 1", line.desk.typeOf(1, 0), 2);
+        Line zero = new Line();
+        zero.frame(Line.HEADERS, 0, 1, 129, 1, 2, 1, 9);
+        zero.frame(Line.DATA, 0, 1, 0, 0, 0);
+        Check.same("the first one, which is 0", zero.desk.typeOf(1, 0), 0);
         line.frame(Line.HEADERS, 0, 2, 65, 4, 129);
         Check.same("it is above 3", line.desk.code(2), 6);
         line.frame(Line.HEADERS, 0, 3, 133, 129);

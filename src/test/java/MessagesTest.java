@@ -267,6 +267,9 @@ public final class MessagesTest {
         Check.same("SINGLE ZIG is not packed, REPEATED ZIG is not FIXED", line.desk.skipped(1), 8);
         line = read(88, 1, 120, 2, 128, 1, 3, 136, 128, 1, 4);
         Check.same("numbers 11, 15, 16, 2049", line.desk.skipped(1), 11);
+        line.open(2, 3);
+        line.message(2, 128, 1, 3, 130, 1, 1, 7);
+        Check.same("number 16 of type 3", line.desk.skipped(2), 7);
     }
 
     private static void skippedBytes() {
@@ -277,6 +280,13 @@ public final class MessagesTest {
         Check.same("empty", read(98, 0).desk.skipped(1), 2);
         Check.same("a long length", read(98, 129, 0, 7).desk.skipped(1), 4);
         Check.same("L bytes that would be an error", read(98, 2, 7, 7).desk.skipped(1), 4);
+        line = read(8, 1, 96, 1, 98, 1, 3);
+        line.message(1, 8, 1, 96, 1);
+        Check.same("each message has its own count", line.desk.skipped(1), 2);
+        line.message(1, 96, 1);
+        Check.same("at its first byte too", line.desk.skipped(1), 2);
+        line.message(1);
+        Check.same("none when it is empty", line.desk.skipped(1), 0);
     }
 
     private static void wireErrors() {

@@ -173,12 +173,16 @@ public final class SendingTest {
         line.sent("does not wait", five(2));
         line.frame(Line.WINDOW, 0, 0, 50);
         line.sent("nor is it the connection's window");
+        line.message(1, 8, 33);
+        Check.same("another behind it", x.answer(1), 2);
         line.frame(Line.WINDOW, 0, 1, 3);
         line.sent("three bytes", 3, 0, 0, 1, 0, 0, 2);
-        line.frame(Line.WINDOW, 0, 1, 9);
-        line.sent("the rest", 2, 0, 0, 1, 8, 1);
+        line.frame(Line.WINDOW, 0, 1, 1);
+        line.sent("one byte", 1, 0, 0, 1, 8);
+        line.frame(Line.WINDOW, 0, 1, 13);
+        line.sent("the rest", 6, 0, 0, 1, 1, 0, 0, 2, 8, 33);
         Check.same("window", x.window(1, true), 7);
-        Check.same("the connection's", x.window(0, true), 80);
+        Check.same("the connection's", x.window(0, true), 75);
     }
 
     private static void windowOfTheConnection() {
@@ -195,11 +199,13 @@ public final class SendingTest {
         line.sent("all wait");
         line.frame(Line.WINDOW, 0, 0, 4);
         line.sent("four bytes of the one behind 2", 4, 0, 0, 1, 0, 0, 2, 8);
+        line.frame(Line.WINDOW, 0, 0, 1);
+        line.sent("then one of the next one", 1, 0, 0, 2, 0);
         line.frame(Line.WINDOW, 0, 0, 4);
-        line.sent("then of the next one", 4, 0, 0, 2, 0, 0, 2, 8);
+        line.sent("then the rest of the first one, and more", 1, 0, 0, 1, 1, 3, 0, 0, 2, 0, 2, 8);
         line.frame(Line.WINDOW, 0, 0, 8);
-        line.sent("then the rest", 1, 0, 0, 1, 1, 1, 0, 0, 2, 2);
-        Check.same("what is left", x.window(0, true), 6);
+        line.sent("then the rest", 1, 0, 0, 2, 2);
+        Check.same("what is left", x.window(0, true), 7);
     }
 
     private static void turns() {

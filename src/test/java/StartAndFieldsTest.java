@@ -86,6 +86,10 @@ public final class StartAndFieldsTest {
         line.frame(Line.RESET, 0, 3, 1);
         Check.same("field when one is SHUT", x.field(0, 3, 0, false), false);
 
+        for (int s = 1; s <= 7; s++) {
+            Line one = new Line().open(s, 0);
+            Check.same("field when " + s + " alone is OPEN", one.desk.field(0, 1, 0, false), false);
+        }
         Line shut = new Line();
         shut.frame(Line.PING, 0, 1, 1);
         Check.same("the connection is DOWN", shut.desk.state(0), 4);

@@ -82,6 +82,8 @@ public final class WritingTest {
         written("an empty row goes", Line.row(50, 0, 58, 0, 66, 0));
         written("FIXED", Line.row(69, 1, 2, 3, 4, 69, 5, 6, 7, 8), 66, 8, 1, 2, 3, 4, 5, 6, 7, 8);
         written("BYTES each with a tag", Line.row(74, 0, 8, 1, 74, 1, 5), 8, 1, 74, 0, 74, 1, 5);
+        written("BYTES before others", Line.row(74, 2, 5, 6, 74, 1, 7, 34, 2, 8, 9, 82, 0),
+                34, 2, 8, 9, 74, 2, 5, 6, 74, 1, 7, 82, 0);
     }
 
     private static void partsWritten() {
@@ -91,6 +93,7 @@ public final class WritingTest {
                 42, 7, 8, 1, 16, 2, 50, 1, 3, 50, 1, 7);
         written("a chain of four", Line.row(42, 9, 42, 7, 42, 5, 8, 255, 255, 255, 127, 8, 1),
                 8, 1, 42, 9, 42, 7, 42, 5, 8, 255, 255, 255, 127);
+        written("16 nodes", Line.times(15, 82, 2, 8, 5), Line.times(15, 82, 2, 8, 5));
         written("a part grows by what is in it", Line.row(82, 6, 8, 255, 255, 255, 255, 15),
                 82, 11, 8, 255, 255, 255, 255, 255, 255, 255, 255, 255, 1);
     }
@@ -114,9 +117,10 @@ public final class WritingTest {
         Check.same("size", line.desk.size(1), 393);
         Check.same("room in a window of 60", line.desk.answer(1), 393);
         Check.same("two answers are too much", line.desk.answer(1), CallDesk.FULL);
+        // Before it stand the frames of the grants, of five bytes each.
         int at = 0;
-        while (line.desk.out(at) != 16 || line.desk.out(at + 1) != 0) {
-            at++;
+        while (line.desk.out(at + 1) == Line.WINDOW) {
+            at += 5;
         }
         Check.same("the higher byte", line.desk.out(at + 5), 1);
         Check.same("the lower byte", line.desk.out(at + 6), 137);
