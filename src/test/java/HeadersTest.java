@@ -4,6 +4,7 @@ public final class HeadersTest {
         formsOfHeaders();
         firstEight();
         typeIsTheFirst();
+        longestRow();
         tableInOrder();
         tableMost();
         tableIsOneForAll();
@@ -80,6 +81,14 @@ public final class HeadersTest {
         line.frame(Line.HEADERS, 1, 5, 129);
         line.frame(Line.HEADERS, 0, 7);
         Check.same("none at all", line.desk.code(7), 6);
+    }
+
+    private static void longestRow() {
+        Line line = new Line();
+        line.frame(Line.HEADERS, 0, 1, Line.join(Line.times(62, 48), Line.row(130)));
+        Check.same("the 63rd byte alone tells the type", line.desk.state(1), 1);
+        line.frame(Line.HEADERS, 1, 1, Line.join(Line.times(62, 129), Line.row(128)));
+        Check.same("the 63rd byte alone is wrong", line.desk.code(0), 4);
     }
 
     private static void tableInOrder() {

@@ -5,6 +5,16 @@ final class Line {
 
     final CallDesk desk = new CallDesk();
 
+    /** With stream 1 OPEN, of type 0: INT 1, ZIG 2, FIXED 3, BYTES 4, PART 5 of type 0; 6 to 10 the same REPEATED. */
+    static Line ofAllKinds() {
+        Line line = new Line();
+        for (int k = 0; k < 5; k++) {
+            line.desk.field(0, 1 + k, k, false);
+            line.desk.field(0, 6 + k, k, true);
+        }
+        return line.open(1, 0);
+    }
+
     /** Feeds bytes one by one; the answer to the last one. */
     int bytes(int... all) {
         int last = 0;

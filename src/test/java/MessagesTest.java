@@ -21,18 +21,8 @@ public final class MessagesTest {
         Check.end();
     }
 
-    /** INT 1, ZIG 2, FIXED 3, BYTES 4, PART 5 of type 0; 6 to 10 the same REPEATED. */
-    private static Line all() {
-        Line line = new Line();
-        for (int k = 0; k < 5; k++) {
-            line.desk.field(0, 1 + k, k, false);
-            line.desk.field(0, 6 + k, k, true);
-        }
-        return line.open(1, 0);
-    }
-
     private static Line read(int... message) {
-        Line line = all();
+        Line line = Line.ofAllKinds();
         line.message(1, message);
         Check.same("state", line.desk.state(1), 1);
         Check.same("messages", line.desk.messages(1), 1);
@@ -41,7 +31,7 @@ public final class MessagesTest {
 
     /** The message must be shut by this code exactly at its byte `at` (1 the first one of the message). */
     private static void broken(String what, int code, int at, int length, int... bytes) {
-        Line line = all();
+        Line line = Line.ofAllKinds();
         line.desk.grant(0, 155);
         line.desk.grant(1, 195);
         line.frame(Line.DATA, 0, 1, 0, 0, length);
@@ -59,40 +49,40 @@ public final class MessagesTest {
 
     private static void prefixes() {
         for (int b : new int[] {1, 128, 255}) {
-            Line line = all();
+            Line line = Line.ofAllKinds();
             line.frame(Line.DATA, 0, 1, b);
             Check.same("first byte " + b, line.desk.code(1), 7);
         }
-        Line high = all();
+        Line high = Line.ofAllKinds();
         high.frame(Line.DATA, 0, 1, 0, 255);
         Check.same("not before the third byte", high.desk.state(1), 1);
         high.frame(Line.DATA, 0, 1, 0);
         Check.same("length 65280", high.desk.code(1), 8);
-        Line above = all();
+        Line above = Line.ofAllKinds();
         above.frame(Line.DATA, 0, 1, 0, 0, 201);
         Check.same("length 201", above.desk.code(1), 8);
-        Line most = all();
+        Line most = Line.ofAllKinds();
         most.frame(Line.DATA, 0, 1, 0, 0, 200);
         Check.same("length 200", most.desk.state(1), 1);
-        Line next = all();
+        Line next = Line.ofAllKinds();
         next.frame(Line.DATA, 0, 1, 0, 0, 0, 3, 0, 0);
         Check.same("the second message's first byte", next.desk.code(1), 7);
         Check.same("messages before that", next.desk.messages(1), 1);
         Check.same("the latest one is there", next.desk.nodes(1), 1);
         next.sent("one error alone", 1, 2, 0, 1, 7);
         // By the words of promise 14 the three bytes are there, though they are an error.
-        Line third = all();
+        Line third = Line.ofAllKinds();
         third.frame(Line.DATA, 0, 1, 0, 0, 0, 0, 1, 0);
         Check.same("the second message's length", third.desk.code(1), 8);
         Check.same("nodes then", third.desk.nodes(1), 0);
-        Line longest = all();
+        Line longest = Line.ofAllKinds();
         longest.message(1, Line.join(Line.row(34, 197, 1), Line.times(197, 7)));
         Check.same("200 bytes", longest.desk.value(1, 0, 4, 0), 197);
         Check.same("its last byte", longest.desk.byteOf(1, 0, 4, 0, 196), 7);
     }
 
     private static void severalMessages() {
-        Line line = all();
+        Line line = Line.ofAllKinds();
         line.frame(Line.DATA, 0, 1, 0, 0, 0, 0, 0, 2, 8, 5, 0, 0, 3, 8);
         Check.same("two whole", line.desk.messages(1), 2);
         Check.same("the third has begun", line.desk.nodes(1), 0);

@@ -597,7 +597,7 @@ final class Model {
         return all;
     }
 
-    private static List<Integer> varint(long n) {
+    static List<Integer> varint(long n) {
         List<Integer> all = new ArrayList<>();
         long rest = n;
         while (Long.compareUnsigned(rest, 127) > 0) {

@@ -265,13 +265,7 @@ public final class ModelTest {
 
     /** Sometimes longer than it need be. */
     private List<Integer> varint(long n) {
-        List<Integer> all = new ArrayList<>();
-        long rest = n;
-        while (Long.compareUnsigned(rest, 127) > 0) {
-            all.add(128 + (int) (rest & 127));
-            rest >>>= 7;
-        }
-        all.add((int) rest);
+        List<Integer> all = Model.varint(n);
         for (int k = chance(3) ? random.nextInt(10) : 0; k > 0 && (all.size() < 10 || chance(wildness)); k--) {
             all.set(all.size() - 1, all.get(all.size() - 1) | 128);
             all.add(0);

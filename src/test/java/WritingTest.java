@@ -12,18 +12,9 @@ public final class WritingTest {
         Check.end();
     }
 
-    private static Line all() {
-        Line line = new Line();
-        for (int k = 0; k < 5; k++) {
-            line.desk.field(0, 1 + k, k, false);
-            line.desk.field(0, 6 + k, k, true);
-        }
-        return line.open(1, 0);
-    }
-
     /** Answers the message and compares what goes out, frames put aside, with the bytes that are due. */
     private static void written(String what, int[] message, int... due) {
-        Line line = all();
+        Line line = Line.ofAllKinds();
         line.desk.grant(0, 155);
         line.desk.grant(1, 195);
         line.frame(Line.WINDOW, 0, 0, 155);
@@ -111,7 +102,7 @@ public final class WritingTest {
     }
 
     private static void moreThan255() {
-        Line line = all();
+        Line line = Line.ofAllKinds();
         int[] row = Line.times(39, 255, 255, 255, 255, 15);
         line.message(1, Line.join(Line.row(50, 195, 1), row));
         Check.same("size", line.desk.size(1), 393);
@@ -127,7 +118,7 @@ public final class WritingTest {
     }
 
     private static void answersThatAreBad() {
-        Line line = all();
+        Line line = Line.ofAllKinds();
         CallDesk x = line.desk;
         Check.same("no message", x.answer(1), CallDesk.BAD);
         line.message(1, 8, 1);
@@ -157,7 +148,7 @@ public final class WritingTest {
     }
 
     private static void answersThatAreFull() {
-        Line line = all();
+        Line line = Line.ofAllKinds();
         CallDesk x = line.desk;
         line.open(2, 0);
         line.message(1, Line.join(Line.row(34, 97), Line.times(97, 5)));
