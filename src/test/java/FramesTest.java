@@ -18,7 +18,7 @@ public final class FramesTest {
     }
 
     private static void feedCountsFrames() {
-        CallDesk x = new CallDesk();
+        Desk x = new Desk();
         Check.same("a head", x.feed(0x00000401, 4), 0);
         Check.same("its payload and part of the next head", x.feed(0x00040109, 4), 1);
         Check.same("the rest of the head", x.feed(0, 1), 0);
@@ -109,7 +109,7 @@ public final class FramesTest {
 
     private static void dataOfSeveralStates() {
         Line line = someStreams();
-        CallDesk x = line.desk;
+        Desk x = line.desk;
         int before = x.window(2, false);
         line.frame(Line.DATA, 1, 2, 9, 9, 9);
         Check.same("DATA of a SHUT one: the connection's window", x.window(0, false), 97);
@@ -129,7 +129,7 @@ public final class FramesTest {
 
     private static void dataAndWindows() {
         Line line = new Line().open(1, 0).open(2, 0);
-        CallDesk x = line.desk;
+        Desk x = line.desk;
         line.head(60, Line.DATA, 0, 1);
         Check.same("the window goes down at the head", x.window(1, false), 0);
         Check.same("the connection's too", x.window(0, false), 40);
@@ -158,7 +158,7 @@ public final class FramesTest {
 
     private static void headersOfSeveralStates() {
         Line line = new Line();
-        CallDesk x = line.desk;
+        Desk x = line.desk;
         line.head(1, Line.HEADERS, 0, 2);
         Check.same("before the end", x.state(2), 0);
         line.bytes(130);
@@ -192,7 +192,7 @@ public final class FramesTest {
 
     private static void resets() {
         Line line = new Line().open(1, 0);
-        CallDesk x = line.desk;
+        Desk x = line.desk;
         line.head(1, Line.RESET, 1, 1);
         Check.same("before the end", x.state(1), 1);
         line.bytes(255);
@@ -212,7 +212,7 @@ public final class FramesTest {
 
     private static void windows() {
         Line line = new Line().open(1, 0).open(2, 0).open(3, 0);
-        CallDesk x = line.desk;
+        Desk x = line.desk;
         line.frame(Line.WINDOW, 0, 1, 195);
         Check.same("up to 255", x.window(1, true), 255);
         Check.same("not the other way", x.window(1, false), 60);
@@ -248,7 +248,7 @@ public final class FramesTest {
 
     private static void endsOfTheOtherSide() {
         Line line = new Line().open(1, 0).open(2, 0).open(3, 0).open(4, 0).open(5, 0).open(6, 0);
-        CallDesk x = line.desk;
+        Desk x = line.desk;
         line.frame(Line.DATA, 1, 1, 0, 0, 0);
         Check.same("behind a whole message", x.state(1), 2);
         line.frame(Line.DATA, 1, 2, 0, 0);
@@ -273,7 +273,7 @@ public final class FramesTest {
 
     private static void afterDown() {
         Line line = new Line().open(1, 0).open(2, 0);
-        CallDesk x = line.desk;
+        Desk x = line.desk;
         x.field(0, 1, 0, false);
         line.message(1, 8, 1);
         x.cancel(2, 30);
@@ -296,7 +296,7 @@ public final class FramesTest {
     }
 
     private static void looksOutside() {
-        CallDesk x = new CallDesk();
+        Desk x = new Desk();
         for (int s : new int[] {-1, 8, 9, Integer.MIN_VALUE, Integer.MAX_VALUE, 1 << 29}) {
             Check.same("state of " + s, x.state(s), CallDesk.BAD);
             Check.same("code of " + s, x.code(s), CallDesk.BAD);

@@ -3,7 +3,7 @@ final class Line {
     static final int DATA = 0, HEADERS = 1, RESET = 2, WINDOW = 3, PING = 4, AWAY = 5;
     static final int END = 1;
 
-    final CallDesk desk = new CallDesk();
+    final Desk desk = new Desk();
 
     /** With stream 1 OPEN, of type 0: INT 1, ZIG 2, FIXED 3, BYTES 4, PART 5 of type 0; 6 to 10 the same REPEATED. */
     static Line ofAllKinds() {
@@ -15,13 +15,23 @@ final class Line {
         return line.open(1, 0);
     }
 
-    /** Feeds bytes one by one; the answer to the last one. */
+    /** Feeds bytes by fours, as objects have but 512 calls; the answer to the last of them. */
     int bytes(int... all) {
         int last = 0;
-        for (int b : all) {
-            last = desk.feed(b, 1);
+        for (int at = 0; at < all.length; at += 4) {
+            int n = Math.min(4, all.length - at);
+            last = desk.feed(together(all, at, n), n);
         }
         return last;
+    }
+
+    /** Some bytes as feed takes them, that of the lowest 8 bits first. */
+    static int together(int[] all, int at, int n) {
+        int bytes = 0;
+        for (int k = 0; k < n; k++) {
+            bytes |= all[at + k] << (8 * k);
+        }
+        return bytes;
     }
 
     int frame(int sort, int flags, int stream, int... payload) {

@@ -106,7 +106,7 @@ public final class MessagesTest {
 
     private static void latestAndNext() {
         Line line = read(8, 5, 34, 1, 77, 120, 1);
-        CallDesk x = line.desk;
+        Desk x = line.desk;
         line.frame(Line.DATA, 0, 1, 0, 0);
         Check.same("two bytes of the next: nodes", x.nodes(1), 1);
         Check.same("two bytes of the next: value", x.value(1, 0, 1, 0), 5);
@@ -185,7 +185,7 @@ public final class MessagesTest {
 
     private static void bytesValues() {
         Line line = read(74, 2, 5, 255, 74, 0, 74, 1, 9, 34, 3, 1, 2, 3, 34, 2, 7, 8);
-        CallDesk x = line.desk;
+        Desk x = line.desk;
         Check.same("REPEATED: many", x.many(1, 0, 9), 3);
         Check.same("REPEATED: lengths", x.value(1, 0, 9, 0) * 100 + x.value(1, 0, 9, 1) * 10 + x.value(1, 0, 9, 2), 201);
         Check.same("byte 1 of 0", x.byteOf(1, 0, 9, 0, 1), 255);
@@ -202,7 +202,7 @@ public final class MessagesTest {
 
     private static void parts() {
         Line line = new Line();
-        CallDesk x = line.desk;
+        Desk x = line.desk;
         x.field(0, 1, 5, true);
         x.field(0, 2, 6, false);
         x.field(1, 1, 0, false);
@@ -230,7 +230,7 @@ public final class MessagesTest {
 
     private static void singleAndRepeated() {
         Line line = read(42, 4, 8, 1, 48, 2, 8, 9, 42, 6, 8, 3, 48, 4, 42, 0, 42, 4, 42, 2, 8, 6, 8, 10);
-        CallDesk x = line.desk;
+        Desk x = line.desk;
         Check.same("a SINGLE part goes on in its node", x.nodes(1), 3);
         Check.same("many", x.many(1, 0, 5), 1);
         Check.same("its SINGLE INT", x.value(1, 1, 1, 0), 3);
@@ -364,7 +364,7 @@ public final class MessagesTest {
 
     private static void looksOutside() {
         Line line = read(8, 5, 42, 2, 8, 6, 34, 1, 7);
-        CallDesk x = line.desk;
+        Desk x = line.desk;
         int[] far = {Integer.MIN_VALUE, -1 << 28, -2, -1, 16, 17, 99, 1 << 28, 1 << 29, Integer.MAX_VALUE};
         for (int n : far) {
             Check.same("typeOf of node " + n, x.typeOf(1, n), -1);
@@ -389,7 +389,7 @@ public final class MessagesTest {
         Check.same("number 17 is not number 1 of the next node", x.value(1, 0, 17, 0), 0);
     }
 
-    private static void none(CallDesk x, int s) {
+    private static void none(Desk x, int s) {
         Check.same("messages of " + s, x.messages(s), 0);
         Check.same("nodes of " + s, x.nodes(s), 0);
         Check.same("typeOf of " + s, x.typeOf(s, 0), -1);

@@ -1,5 +1,4 @@
 import java.util.ArrayList;
-import java.util.LinkedHashMap;
 import java.util.List;
 import java.util.Map;
 import java.util.TreeMap;
@@ -8,7 +7,7 @@ import java.util.TreeMap;
  * A second desk, written from the document in the plainest way: a message is read anew from its first byte
  * at each byte that comes, by recursion, and written again by recursion. ModelTest compares the two.
  */
-final class Model {
+final class Model implements Face {
     /** An error in a message, of the code that the document gives it there. */
     private static final class Fault extends RuntimeException {
         private static final long serialVersionUID = 1;
@@ -273,7 +272,8 @@ final class Model {
         return s >= 1 && s <= 7 && streams[s].life.equals(life);
     }
 
-    boolean field(int type, int number, int kind, boolean repeated) {
+    @Override
+    public boolean field(int type, int number, int kind, boolean repeated) {
         boolean inside = type >= 0 && type <= 3 && number >= 1 && number <= 15 && kind >= -1 && kind <= 7;
         for (int s = 1; s <= 7; s++) {
             inside = inside && is(s, "IDLE");
@@ -285,7 +285,8 @@ final class Model {
         return inside;
     }
 
-    int feed(int bytes, int n) {
+    @Override
+    public int feed(int bytes, int n) {
         if (n < 1 || n > 4) {
             return -1;
         }
@@ -521,7 +522,8 @@ final class Model {
         }
     }
 
-    int grant(int s, int n) {
+    @Override
+    public int grant(int s, int n) {
         if (down) {
             return -2;
         }
@@ -534,7 +536,8 @@ final class Model {
         return streams[s].in;
     }
 
-    int answer(int s) {
+    @Override
+    public int answer(int s) {
         if (down) {
             return -2;
         }
@@ -608,7 +611,8 @@ final class Model {
         return all;
     }
 
-    boolean finish(int s) {
+    @Override
+    public boolean finish(int s) {
         if (down || !is(s, "OPEN") || streams[s].finish) {
             return false;
         }
@@ -617,7 +621,8 @@ final class Model {
         return true;
     }
 
-    boolean cancel(int s, int code) {
+    @Override
+    public boolean cancel(int s, int code) {
         if (down || !is(s, "OPEN") || code < 20 || code > 99) {
             return false;
         }
@@ -640,19 +645,23 @@ final class Model {
         return node == null ? List.of() : node.values.getOrDefault(number, List.of());
     }
 
-    int messages(int s) {
+    @Override
+    public int messages(int s) {
         return s < 1 || s > 7 ? 0 : streams[s].whole;
     }
 
-    int skipped(int s) {
+    @Override
+    public int skipped(int s) {
         return latest(s) == null ? 0 : latest(s).skipped;
     }
 
-    int size(int s) {
+    @Override
+    public int size(int s) {
         return latest(s) == null ? 0 : written(latest(s).nodes.get(0)).size();
     }
 
-    int value(int s, int k, int number, int i) {
+    @Override
+    public int value(int s, int k, int number, int i) {
         List<Object> row = row(s, k, number);
         if (i < 0 || i >= row.size()) {
             return 0;
@@ -664,7 +673,8 @@ final class Model {
         return value instanceof List ? ((List<?>) value).size() : (Integer) value;
     }
 
-    int byteOf(int s, int node, int number, int i, int k) {
+    @Override
+    public int byteOf(int s, int node, int number, int i, int k) {
         List<Object> row = row(s, node, number);
         if (i < 0 || i >= row.size() || !(row.get(i) instanceof List)) {
             return -1;
@@ -673,7 +683,8 @@ final class Model {
         return k < 0 || k >= bytes.size() ? -1 : (Integer) bytes.get(k);
     }
 
-    int state(int s) {
+    @Override
+    public int state(int s) {
         if (s == 0) {
             return down ? 4 : 1;
         }
@@ -686,45 +697,59 @@ final class Model {
         return streams[s].theyEnded ? 2 : streams[s].weEnded ? 3 : 1;
     }
 
-    int drain() {
+    @Override
+    public int drain() {
         int n = sent.size();
         sent.clear();
         return n;
     }
 
-    /** The answers of all that only looks, by the call's name. */
-    Map<String, Integer> looks(int s) {
-        Map<String, Integer> all = new LinkedHashMap<>();
-        boolean inside = s >= 0 && s <= 7;
-        all.put("state", state(s));
-        all.put("code", inside ? streams[s].code : -1);
-        all.put("window in", inside ? streams[s].in : -1);
-        all.put("window out", inside ? streams[s].out : -1);
-        all.put("messages", messages(s));
-        all.put("nodes", latest(s) == null ? 0 : latest(s).nodes.size());
-        all.put("skipped", skipped(s));
-        all.put("MOST", most);
-        all.put("out", sent.size());
-        return all;
+    @Override
+    public int code(int s) {
+        return s < 0 || s > 7 ? -1 : streams[s].code;
     }
 
-    int header(int s, int k) {
+    @Override
+    public int window(int s, boolean sending) {
+        if (s < 0 || s > 7) {
+            return -1;
+        }
+        return sending ? streams[s].out : streams[s].in;
+    }
+
+    @Override
+    public int nodes(int s) {
+        return latest(s) == null ? 0 : latest(s).nodes.size();
+    }
+
+    @Override
+    public int header(int s, int k) {
         return s < 1 || s > 7 || k < 0 || k >= streams[s].headers.size() ? -1 : streams[s].headers.get(k);
     }
 
-    int table(int k) {
+    @Override
+    public int table(int k) {
+        if (k == -1) {
+            return most;
+        }
         return k < 0 || k >= table.size() ? -1 : table.get(k);
     }
 
-    int typeOf(int s, int k) {
+    @Override
+    public int typeOf(int s, int k) {
         return node(s, k) == null ? -1 : node(s, k).type;
     }
 
-    int many(int s, int k, int number) {
+    @Override
+    public int many(int s, int k, int number) {
         return row(s, k, number).size();
     }
 
-    int out(int k) {
+    @Override
+    public int out(int k) {
+        if (k == -1) {
+            return sent.size();
+        }
         return k < 0 || k >= sent.size() ? -1 : sent.get(k);
     }
 }

@@ -2,17 +2,20 @@ import java.util.ArrayDeque;
 import java.util.ArrayList;
 import java.util.Arrays;
 import java.util.List;
-import java.util.Map;
 import java.util.Random;
+import java.util.function.ToIntFunction;
 
 /** Compares the desk with Model over many runs of calls, always the same ones. */
 public final class ModelTest {
-    private static final int RUNS = 2000, CALLS = 300;
+    private static final int RUNS = 5000, CALLS = 300;
+    /** How often, in so many calls, all that looks is compared. */
+    private static final int SIGHTS = 3;
 
     private final Random random;
     private final String run;
-    private final CallDesk desk = new CallDesk();
+    private final Desk desk = new Desk();
     private final Model model = new Model();
+    private final List<ToIntFunction<Face>> calls = new ArrayList<>();
     private final int[][] kinds = new int[4][16];
     private final boolean[][] repeats = new boolean[4][16];
     private final int[] types = new int[8];
@@ -51,13 +54,45 @@ public final class ModelTest {
 
     private void go(int[] ends) {
         setFields();
-        for (int call = 0; call < CALLS && Check.wrong() == 0; call++) {
+        for (int call = 1; call <= CALLS && Check.wrong() == 0; call++) {
             oneCall();
-            lookAtAll(chance(10));
+            if (desk.left() > CALLS - call) {
+                oneLook();
+            }
+            if (chance(SIGHTS) || call == CALLS) {
+                lookAtAll();
+            }
         }
-        lookAtAll(true);
         for (int s = 1; s <= 7; s++) {
-            ends[desk.code(s)]++;
+            ends[model.code(s)]++;
+        }
+    }
+
+    /** The answer that both give; what changes something is kept, to be done again on other objects. */
+    private int both(String what, ToIntFunction<Face> call) {
+        calls.add(call);
+        return compared(what, call);
+    }
+
+    private int compared(String what, ToIntFunction<Face> call) {
+        int due = call.applyAsInt(model);
+        int got = call.applyAsInt(desk);
+        if (got != due) {
+            Check.same(run + what, got, due);
+        }
+        return due;
+    }
+
+    private void lookAtAll() {
+        Sight due = new Sight(() -> model);
+        Sight got = new Sight(() -> {
+            Desk again = new Desk();
+            calls.forEach(call -> call.applyAsInt(again));
+            return again;
+        });
+        for (String change : got.since(due)) {
+            String name = change.substring(0, change.indexOf('='));
+            Check.told(run + "after " + calls.size() + " calls, not due is " + change + ", due is " + due.get(name));
         }
     }
 
@@ -68,9 +103,7 @@ public final class ModelTest {
             int number = chance(70) ? 1 + random.nextInt(5) : random.nextInt(17);
             int kind = deep && chance(50) ? 4 + random.nextInt(4) : random.nextInt(10) - 2;
             boolean repeated = random.nextBoolean();
-            boolean set = desk.field(type, number, kind, repeated);
-            Check.same(run + "field", set, model.field(type, number, kind, repeated));
-            if (set) {
+            if (both("field", x -> x.field(type, number, kind, repeated) ? 1 : 0) == 1) {
                 kinds[type][number] = kind + 1;
                 repeats[type][number] = repeated;
             }
@@ -85,20 +118,36 @@ public final class ModelTest {
         } else if (dice < 83) {
             int n = chance(80) ? 1 + random.nextInt(100) : random.nextInt(300) - 10;
             int of = chance(40) ? 0 : s;
-            Check.same(run + "grant", desk.grant(of, n), model.grant(of, n));
+            both("grant", x -> x.grant(of, n));
         } else if (dice < 93) {
-            Check.same(run + "answer", desk.answer(s), model.answer(s));
+            both("answer", x -> x.answer(s));
         } else if (dice < 95) {
-            Check.same(run + "finish", desk.finish(s), model.finish(s));
+            both("finish", x -> x.finish(s) ? 1 : 0);
         } else if (dice < 96) {
             int code = random.nextInt(120);
-            Check.same(run + "cancel", desk.cancel(s, code), model.cancel(s, code));
+            both("cancel", x -> x.cancel(s, code) ? 1 : 0);
         } else if (dice < 97) {
-            Check.same(run + "field", desk.field(1, 1, 1, true), model.field(1, 1, 1, true));
+            both("field", x -> x.field(1, 1, 1, true) ? 1 : 0);
         } else if (dice < 99 && chance(50)) {
-            lookAtOut();
-            Check.same(run + "drain", desk.drain(), model.drain());
+            lookAtAll();
+            both("drain", Face::drain);
         }
+    }
+
+    /** One look of any kind, at places that are there and at others. */
+    private void oneLook() {
+        int s = random.nextInt(11) - 2;
+        int node = chance(80) ? random.nextInt(4) : random.nextInt(20) - 2;
+        int number = chance(80) ? 1 + random.nextInt(5) : random.nextInt(20) - 2;
+        int i = random.nextInt(4) - 1;
+        int k = random.nextInt(chance(80) ? 5 : 1204) - 2;
+        List<ToIntFunction<Face>> looks = List.of(x -> x.state(s), x -> x.code(s), x -> x.window(s, true),
+                x -> x.window(s, false), x -> x.header(s, k), x -> x.table(k), x -> x.messages(s), x -> x.nodes(s),
+                x -> x.typeOf(s, node), x -> x.many(s, node, number), x -> x.value(s, node, number, i),
+                x -> x.byteOf(s, node, number, i, k), x -> x.skipped(s), x -> x.size(s), x -> x.out(k));
+        int which = random.nextInt(looks.size());
+        String at = " at " + List.of(s, node, number, i, k);
+        compared("look " + which + at, looks.get(which));
     }
 
     private void feed() {
@@ -113,7 +162,8 @@ public final class ModelTest {
                 line.removeFirst();
             }
         }
-        Check.same(run + "feed", desk.feed(bytes, n), model.feed(bytes, n));
+        int row = bytes;
+        both("feed", x -> x.feed(row, n));
     }
 
     private void addFrame() {
@@ -202,7 +252,7 @@ public final class ModelTest {
             rest.add(long8 ? 195 + random.nextInt(12) : body.size() % 256);
             rest.addAll(body);
         }
-        int room = Math.min(model.looks(s).get("window in"), model.looks(0).get("window in"));
+        int room = Math.min(model.window(s, false), model.window(0, false));
         int n = Math.min(63, Math.min(rest.size(), 1 + random.nextInt(chance(50) ? 60 : 8)));
         if (!chance(wildness) || chance(90)) {
             n = Math.min(n, room);
@@ -289,69 +339,6 @@ public final class ModelTest {
         line.addAll(List.of(payload.length, sort, flags, stream));
         for (int b : payload) {
             line.add(b);
-        }
-    }
-
-    private void lookAtAll(boolean closely) {
-        for (int s = -1; s <= 8; s++) {
-            Map<String, Integer> due = model.looks(s);
-            same(desk.state(s), due.get("state"), "state", s);
-            same(desk.code(s), due.get("code"), "code", s);
-            same(desk.window(s, false), due.get("window in"), "window in", s);
-            same(desk.window(s, true), due.get("window out"), "window out", s);
-            same(desk.messages(s), due.get("messages"), "messages", s);
-            same(desk.nodes(s), due.get("nodes"), "nodes", s);
-            same(desk.skipped(s), due.get("skipped"), "skipped", s);
-            same(desk.table(-1), due.get("MOST"), "table", -1);
-            same(desk.out(-1), due.get("out"), "out", -1);
-            if (closely) {
-                lookAtMessage(s);
-            }
-        }
-        if (closely) {
-            lookAtOut();
-        }
-    }
-
-    private void lookAtMessage(int s) {
-        same(desk.size(s), model.size(s), "size", s);
-        for (int k = -2; k <= 17; k++) {
-            same(desk.header(s, k), model.header(s, k), "header", s, k);
-            same(desk.typeOf(s, k), model.typeOf(s, k), "typeOf", s, k);
-            if (k != -1) {
-                same(desk.table(k), model.table(k), "table", k);
-            }
-            for (int number = -1; number <= 17; number++) {
-                int many = model.many(s, k, number);
-                same(desk.many(s, k, number), many, "many", s, k, number);
-                for (int i = -1; i <= many; i++) {
-                    lookAtValue(s, k, number, i);
-                }
-            }
-        }
-    }
-
-    private void lookAtValue(int s, int node, int number, int i) {
-        int due = model.value(s, node, number, i);
-        same(desk.value(s, node, number, i), due, "value", s, node, number, i);
-        int most = due > 200 || due < 0 ? 1 : due;
-        for (int k = -1; k <= most; k++) {
-            int byteDue = model.byteOf(s, node, number, i, k);
-            same(desk.byteOf(s, node, number, i, k), byteDue, "byteOf", s, node, number, i, k);
-        }
-    }
-
-    private void lookAtOut() {
-        for (int k = -3; k < 1210; k++) {
-            if (k != -1) {
-                same(desk.out(k), model.out(k), "out", k);
-            }
-        }
-    }
-
-    private void same(int got, int due, String call, int... with) {
-        if (got != due) {
-            Check.same(run + call + Arrays.toString(with), got, due);
         }
     }
 }

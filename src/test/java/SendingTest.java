@@ -36,7 +36,7 @@ public final class SendingTest {
 
     private static void grants() {
         Line line = streams(1);
-        CallDesk x = line.desk;
+        Desk x = line.desk;
         Check.same("of the stream", x.grant(1, 200), 255);
         Check.same("of the connection", x.grant(0, 1), 96);
         Check.same("window", x.window(1, false), 255);
@@ -58,7 +58,7 @@ public final class SendingTest {
 
     private static void grantsThatAreBad() {
         Line line = streams(1);
-        CallDesk x = line.desk;
+        Desk x = line.desk;
         int[] wrong = {0, -1, 256, 201, Integer.MIN_VALUE, Integer.MAX_VALUE};
         for (int n : wrong) {
             Check.same("grant of " + n, x.grant(1, n), CallDesk.BAD);
@@ -74,7 +74,7 @@ public final class SendingTest {
 
     private static void finishes() {
         Line line = streams(2);
-        CallDesk x = line.desk;
+        Desk x = line.desk;
         Check.same("finish", x.finish(1), true);
         Check.same("this side ended", x.state(1), 3);
         line.sent("at once", 0, 0, 1, 1);
@@ -92,7 +92,7 @@ public final class SendingTest {
 
     private static void finishesWithBytes() {
         Line line = streams(1);
-        CallDesk x = line.desk;
+        Desk x = line.desk;
         line.message(1, Line.join(Line.row(18, 70), Line.times(70, 6)));
         Check.same("answer", x.answer(1), 72);
         x.drain();
@@ -110,7 +110,7 @@ public final class SendingTest {
 
     private static void finishesThatAreFalse() {
         Line line = streams(2);
-        CallDesk x = line.desk;
+        Desk x = line.desk;
         for (int s : new int[] {-1, 0, 3, 8, Integer.MIN_VALUE, Integer.MAX_VALUE}) {
             Check.same("finish of " + s, x.finish(s), false);
         }
@@ -123,7 +123,7 @@ public final class SendingTest {
 
     private static void cancels() {
         Line line = streams(3);
-        CallDesk x = line.desk;
+        Desk x = line.desk;
         for (int code : new int[] {19, 100, 0, -20, Integer.MIN_VALUE, Integer.MAX_VALUE}) {
             Check.same("code " + code, x.cancel(1, code), false);
         }
@@ -161,7 +161,7 @@ public final class SendingTest {
 
     private static void windowsOfStreams() {
         Line line = streams(2);
-        CallDesk x = line.desk;
+        Desk x = line.desk;
         for (int k = 0; k < 12; k++) {
             x.answer(1);
         }
@@ -187,7 +187,7 @@ public final class SendingTest {
 
     private static void windowOfTheConnection() {
         Line line = streams(2);
-        CallDesk x = line.desk;
+        Desk x = line.desk;
         for (int k = 0; k < 10; k++) {
             x.answer(1);
             x.answer(2);
@@ -210,7 +210,7 @@ public final class SendingTest {
 
     private static void turns() {
         Line line = streams(7);
-        CallDesk x = line.desk;
+        Desk x = line.desk;
         for (int k = 0; k < 10; k++) {
             x.answer(1);
             x.answer(2);
@@ -240,7 +240,7 @@ public final class SendingTest {
 
     private static void turnsOfEnds() {
         Line line = streams(4);
-        CallDesk x = line.desk;
+        Desk x = line.desk;
         for (int k = 0; k < 10; k++) {
             x.answer(2);
             x.answer(4);
@@ -264,7 +264,7 @@ public final class SendingTest {
 
     private static void queuesThatGo() {
         Line line = streams(3);
-        CallDesk x = line.desk;
+        Desk x = line.desk;
         for (int k = 0; k < 14; k++) {
             x.answer(1);
             x.answer(2);
@@ -285,7 +285,7 @@ public final class SendingTest {
 
     private static void downSendsNothing() {
         Line line = streams(1);
-        CallDesk x = line.desk;
+        Desk x = line.desk;
         for (int k = 0; k < 13; k++) {
             x.answer(1);
         }
@@ -300,11 +300,13 @@ public final class SendingTest {
 
     private static void outAndDrain() {
         Line line = new Line();
-        CallDesk x = line.desk;
+        Desk x = line.desk;
         Check.same("drain of nothing", x.drain(), 0);
+        int[] pings = Line.times(239, 1, Line.PING, 0, 0, 0);
         for (int k = 0; k < 239; k++) {
-            line.frame(Line.PING, 0, 0, k);
+            pings[5 * k + 4] = k;
         }
+        line.bytes(pings);
         Check.same("out", x.out(-1), 1195);
         for (int k : new int[] {-2, 1195, 1200, Integer.MIN_VALUE, Integer.MAX_VALUE}) {
             Check.same("out " + k, x.out(k), -1);

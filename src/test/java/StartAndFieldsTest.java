@@ -10,7 +10,7 @@ public final class StartAndFieldsTest {
     }
 
     private static void newObject() {
-        CallDesk x = new CallDesk();
+        Desk x = new Desk();
         Check.same("BAD", CallDesk.BAD, -1);
         Check.same("DOWN", CallDesk.DOWN, -2);
         Check.same("FULL", CallDesk.FULL, -3);
@@ -39,8 +39,8 @@ public final class StartAndFieldsTest {
     }
 
     private static void fieldsInside() {
-        CallDesk x = new CallDesk();
         for (int type = 0; type <= 3; type++) {
+            Desk x = new Desk();
             for (int number = 1; number <= 15; number++) {
                 for (int kind = -1; kind <= 7; kind++) {
                     Check.same("field", x.field(type, number, kind, kind % 2 == 0), true);
@@ -51,7 +51,7 @@ public final class StartAndFieldsTest {
 
     private static void fieldsOutside() {
         Line line = new Line();
-        CallDesk x = line.desk;
+        Desk x = line.desk;
         Check.same("field inside", x.field(0, 1, 0, true), true);
         int[] far = {Integer.MIN_VALUE, -1000, 1000, 1 << 28, Integer.MAX_VALUE};
         for (int n : far) {
@@ -73,7 +73,7 @@ public final class StartAndFieldsTest {
 
     private static void fieldsAfterOpening() {
         Line line = new Line();
-        CallDesk x = line.desk;
+        Desk x = line.desk;
         Check.same("field before", x.field(0, 1, 0, false), true);
         line.head(1, 1, 0, 3);
         Check.same("field when all are IDLE yet", x.field(0, 2, 0, false), true);
@@ -98,7 +98,7 @@ public final class StartAndFieldsTest {
 
     private static void fieldSetAgain() {
         Line line = new Line();
-        CallDesk x = line.desk;
+        Desk x = line.desk;
         x.field(2, 4, 0, false);
         x.field(2, 4, 3, true);
         x.field(2, 5, 0, false);

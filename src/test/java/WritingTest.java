@@ -119,7 +119,7 @@ public final class WritingTest {
 
     private static void answersThatAreBad() {
         Line line = Line.ofAllKinds();
-        CallDesk x = line.desk;
+        Desk x = line.desk;
         Check.same("no message", x.answer(1), CallDesk.BAD);
         line.message(1, 8, 1);
         for (int s : new int[] {-1, 0, 2, 8, Integer.MIN_VALUE, Integer.MAX_VALUE}) {
@@ -149,7 +149,7 @@ public final class WritingTest {
 
     private static void answersThatAreFull() {
         Line line = Line.ofAllKinds();
-        CallDesk x = line.desk;
+        Desk x = line.desk;
         line.open(2, 0);
         line.message(1, Line.join(Line.row(34, 97), Line.times(97, 5)));
         // 60 bytes go at once, for the window; 500 bytes of others have room behind that.
