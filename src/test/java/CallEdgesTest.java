@@ -19,6 +19,8 @@ public final class CallEdgesTest extends Edges {
         fieldsWhenStreamsAreNotIdle();
         feeds();
         feedBeforeDown();
+        feedsThatBringItDown();
+        errorsOfTheStream();
         grantsFromOneTo255();
         grantsUpTo255();
         grantsToOthers();
@@ -163,7 +165,8 @@ public final class CallEdgesTest extends Edges {
         edge("n is 3", SOME, SOME.feed(0xFF000401, 3).feed(0xFFFF0900, 2), 1, "OUT=1 4 1 0 9");
         edge("n is 4", SOME, SOME.feed(0x00000401, 4).feed(0xFFFFFF09, 1), 1, "OUT=1 4 1 0 9");
         edge("n is 4, with the highest bit", SOME, SOME.bytes(4, AWAY, 0, 0).feed(0xFF00FF80, 4), 1);
-        edge("a BAD one between them", SOME, SOME.bytes(1, PING).feed(0, 0).feed(0, 5).bytes(0, 0, 9), 1, "OUT=1 4 1 0 9");
+        edge("a BAD one between them", SOME, SOME.bytes(1, PING).feed(0, 0).feed(0, 5).bytes(0, 0, 9), 1,
+                "OUT=1 4 1 0 9");
         edge("no frame ends", SOME, SOME.bytes(1, PING, 0, 0), 0);
         edge("one frame ends in the first of four bytes", SOME, SOME.bytes(ping[0], ping[1], 0, 0).bytes(9, 1, 4, 0), 1,
                 "OUT=1 4 1 0 9");
@@ -176,6 +179,47 @@ public final class CallEdgesTest extends Edges {
         edge("n is 5", DEAD, DEAD.feed(0, 5), BAD);
         edge("n is 1", DEAD, DEAD.feed(0, 1), DOWN);
         edge("n is 4", DEAD, DEAD.feed(0, 4), DOWN);
+    }
+
+    private static void feedsThatBringItDown() {
+        says("DOWN if the connection is so, or comes to be");
+        int[][] wrong = {{64, 0, 0, 3}, {1, DATA, 0, 1}, {63, DATA, 0, 3}, {1, HEADERS, 0, 1}, {0, RESET, 0, 3}};
+        int[] codes = {1, 2, 3, 2, 1};
+        // What may come in of the connection is 62 now.
+        Run less = SOME.data(6, anyData(23)).drain();
+        for (int k = 0; k < wrong.length; k++) {
+            edge("by a head: " + text(wrong[k]), less, less.bytes(wrong[k]), DOWN, down(codes[k]));
+            edge("before its last byte: " + text(wrong[k]), less, less.bytes(wrong[k][0], wrong[k][1], 0), 0);
+            edge("by its last byte: " + text(wrong[k]), less,
+                    less.bytes(wrong[k][0], wrong[k][1], 0).bytes(wrong[k][3]), DOWN, down(codes[k]));
+        }
+        edge("by the end of WINDOW", SOME, SOME.bytes(1, WINDOW, 0, 0).bytes(0), DOWN, down(2));
+        edge("by the end of WINDOW, with bytes behind it", SOME, SOME.bytes(1, WINDOW, 0, 0).bytes(0, 1, 4, 0), DOWN,
+                down(2));
+        edge("by the end of HEADERS", SOME, SOME.bytes(1, HEADERS, 0, 7).bytes(128, 1, 4), DOWN, down(4));
+        edge("a second time", DEAD, DEAD.bytes(64, 0, 0, 3), DOWN);
+
+        says("When the CONNECTION is DOWN, state, code and window of the streams stay as they are.");
+        Run waits = SOME.message(6, join(row(18, 90), times(90, 1))).answer(6).finish(6).frame(WINDOW, 0, 4, 9)
+                .grant(4, 8).data(3, 0, 0, 2, 8).drain();
+        edge("code 1", waits, waits.bytes(64, 9, 0, 9), DOWN, down(1));
+        edge("code 2", waits, waits.bytes(0, DATA, END, 7), DOWN, down(2));
+        Run few = waits.data(2, times(50, 0));
+        edge("code 3", few, few.bytes(37, DATA, END, 3), DOWN, down(3));
+        edge("code 3 of a window", waits, waits.frame(WINDOW, 0, 0, 255), DOWN, down(3));
+        edge("code 4", waits, waits.frame(HEADERS, END, 3, 128), DOWN, down(4));
+    }
+
+    private static void errorsOfTheStream() {
+        says("ERRORS 6, 7, 8 and 9 are of the stream.");
+        edge("6", SOME, SOME.frame(HEADERS, 0, 7, 1, 4), 1,
+                shut(7, 6, "headers(7)=260", "coming(7)=60", "sending(7)=60"));
+        edge("7", SOME, SOME.data(6, 1), 1, shut(6, 7, "coming(0)=84", "coming(6)=59"));
+        edge("8", SOME, SOME.data(6, 0, 0, 201), 1, shut(6, 8, "coming(0)=82", "coming(6)=57"));
+        edge("9", SOME, SOME.frame(DATA, END, 6, 0), 1, shut(6, 9, "coming(0)=84", "coming(6)=59"));
+        Run wrong = SOME.data(6, 1).drain();
+        edge("others go on", wrong, wrong.data(3, 0, 0, 2, 8, 6), 1, "coming(0)=79", "coming(3)=40", "messages(3)=2",
+                "message(3)=0{1=6}", "size(3)=2");
     }
 
     private static void grantsFromOneTo255() {
@@ -230,8 +274,8 @@ public final class CallEdgesTest extends Edges {
     }
 
     private static void answers() {
-        says("The latest message of a stream, written again, comes behind its QUEUE, with three bytes 0, length (higher "
-                + "byte first) before it: how many bytes the message has.");
+        says("The latest message of a stream, written again, comes behind its QUEUE, with three bytes 0, length "
+                + "(higher byte first) before it: how many bytes the message has.");
         edge("a message", SOME, SOME.answer(3), 12, "sending(0)=85", "sending(3)=45",
                 "OUT=15 0 0 3 0 0 12 8 5 18 2 8 9 26 0 34 2 3 4");
         Run empty = SOME.data(6, 0, 0, 0);
@@ -242,15 +286,16 @@ public final class CallEdgesTest extends Edges {
         // 25 INTs of five bytes become 25 of ten.
         Run wide = SOME.message(6, join(row(34, 125), times(25, 255, 255, 255, 255, 15))).drain();
         edge("253 bytes", wide, wide.answer(6), 253, "sending(0)=40", "sending(6)=0",
-                "OUT=16 0 0 6 0 0 253 34 250 1 255*9 1 16 0 0 6 255*9 1 255*6 16 0 0 6 255 255 255 1 255*9 1 255 255 12 0 0 6 "
-                + "255*7 1 255*4");
+                "OUT=16 0 0 6 0 0 253 34 250 1 255*9 1 16 0 0 6 255*9 1 255*6 16 0 0 6 255 255 255 1 255*9 1 255 255 "
+                + "12 0 0 6 255*7 1 255*4");
         Run wider = SOME.message(6, join(row(34, 130, 1), times(26, 255, 255, 255, 255, 15))).frame(WINDOW, 0, 6, 195)
                 .frame(WINDOW, 0, 0, 155).drain();
         edge("263 bytes, the higher byte is 1", wider, wider.answer(6).drain(), 319, "sending(0)=0", "sending(6)=0");
         same("the higher byte", wider.answer(6).desk().out(5), 1);
         same("the lower byte", wider.answer(6).desk().out(6), 7);
 
-        says("answer: the bytes that it answers are those of the message as it is written again, as size answers them.");
+        says("answer: the bytes that it answers are those of the message as it is written again, as size answers "
+                + "them.");
         same("size of an empty one", empty.desk().size(6), 0);
         same("size of 263", wider.desk().size(6), 263);
         same("size of the first", SOME.desk().size(3), 12);
@@ -347,8 +392,8 @@ public final class CallEdgesTest extends Edges {
     }
 
     private static void states() {
-        says("Of a stream 0 IDLE, 1 OPEN, 2 the other side ENDED, 3 this side did, 4 SHUT; of the connection (0) 1, or 4 "
-                + "if it is DOWN; BAD for others.");
+        says("Of a stream 0 IDLE, 1 OPEN, 2 the other side ENDED, 3 this side did, 4 SHUT; of the connection (0) 1, or "
+                + "4 if it is DOWN; BAD for others.");
         int[] due = {1, 0, 4, 1, 2, 3, 1, 0};
         for (int s = 0; s <= 7; s++) {
             int number = s;
@@ -385,8 +430,8 @@ public final class CallEdgesTest extends Edges {
     }
 
     private static void windows() {
-        says("The window of a stream (or the connection) for sending, or else for what comes in; 0 for one that is IDLE; "
-                + "BAD for others.");
+        says("The window of a stream (or the connection) for sending, or else for what comes in; 0 for one that is "
+                + "IDLE; BAD for others.");
         int[] in = {85, 0, 60, 45, 60, 60, 60, 0};
         int[] out = {100, 0, 60, 60, 60, 60, 60, 0};
         for (int s = 0; s <= 7; s++) {

@@ -1,3 +1,4 @@
+import java.util.Arrays;
 import java.util.stream.IntStream;
 import java.util.stream.Stream;
 
@@ -57,8 +58,23 @@ abstract class Edges {
         return Sight.text(IntStream.of(numbers).boxed().toList());
     }
 
+    /** The frames of DATA in which bytes are sent when windows do not hinder. */
+    static int[] frames(int s, boolean end, int... bytes) {
+        int[] all = {};
+        for (int at = 0; at < bytes.length; at += 16) {
+            int[] piece = Arrays.copyOfRange(bytes, at, Math.min(bytes.length, at + 16));
+            boolean last = end && at + 16 >= bytes.length;
+            all = join(all, row(piece.length, DATA, last ? END : 0, s), piece);
+        }
+        return all;
+    }
+
+    static String out(int[]... frames) {
+        return "OUT=" + text(join(frames));
+    }
+
     /** The first bytes of the data of a stream without fields that may go on by 200 bytes of any value. */
     static int[] anyData(int n) {
-        return java.util.Arrays.copyOf(row(0, 0, 200, 122, 197, 1), n);
+        return Arrays.copyOf(row(0, 0, 200, 122, 197, 1), n);
     }
 }

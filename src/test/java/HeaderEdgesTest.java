@@ -90,6 +90,8 @@ public final class HeaderEdgesTest extends Edges {
                 "headers(3)=256 514");
         edge("i is 21 with a full TABLE", full, full.frame(HEADERS, END, 3, 149), DOWN, down(4));
         edge("i is 127 with a full TABLE", full, full.frame(HEADERS, END, 3, 255), DOWN, down(4));
+        Run zero = table(SOME, 64, 0, 0);
+        edge("(0, 0) of the TABLE", zero, zero.frame(HEADERS, END, 3, 133), 1, "state(3)=2", "headers(3)=256 0");
         edge("one that just came", SOME, SOME.frame(HEADERS, END, 3, 66, 9, 133), 1, "state(3)=2",
                 "headers(3)=256 521 521", "TABLE=521");
     }

@@ -10,6 +10,7 @@ public final class MessageEdgesTest extends Edges {
             .field(0, 4, 3, false).field(0, 5, 4, false).field(0, 6, 0, true).field(0, 7, 1, true)
             .field(0, 8, 2, true).field(0, 9, 3, true).field(0, 10, 4, true).field(0, 15, 0, false)
             .field(1, 11, 0, false).open(1, 0).grant(0, 155).grant(1, 195).drain();
+    private static final Run WIDE = ALL.frame(WINDOW, 0, 0, 155).frame(WINDOW, 0, 1, 195);
     /** 48 values, or one or two fewer, in 50, 49 or 48 bytes. */
     private static final int[] FULL_ROW = join(row(50, 48), times(48, 1));
     private static final int[] ROW_OF_47 = join(row(50, 47), times(47, 1));
@@ -26,6 +27,7 @@ public final class MessageEdgesTest extends Edges {
         wires();
         knownNumbers();
         knownWires();
+        packedAndSkipped();
         ints();
         zigs();
         fixed();
@@ -43,6 +45,8 @@ public final class MessageEdgesTest extends Edges {
         theLeastError();
         skippedBytes();
         sizes();
+        writtenAgain();
+        writtenBehindOthers();
         Check.end();
     }
 
@@ -264,6 +268,24 @@ public final class MessageEdgesTest extends Edges {
         }
     }
 
+    private static void packedAndSkipped() {
+        says("then the L bytes are VARINTs (or four bytes each), one behind the other, PACKED. All others are SKIPPED, "
+                + "the L bytes too.");
+        reads("a row of one", row(50, 1, 9), 0, 3, "0{6=9}");
+        reads("a row of two", row(50, 3, 9, 255, 1), 0, 5, "0{6=9,255}");
+        reads("a row of ZIG", row(58, 3, 9, 255, 1), 0, 5, "0{7=-5,-128}");
+        reads("a row of FIXED, one", row(66, 4, 9, 0, 0, 0), 0, 6, "0{8=9}");
+        reads("a row in a part, and behind it", row(42, 3, 50, 1, 9, 50, 1, 8), 0, 8, "0{5=1 6=8} 0{6=9}");
+        reads("bytes that would be errors are SKIPPED", row(90, 3, 3, 0, 255), 5, 0, "0{}");
+        reads("a row of a SINGLE field is SKIPPED", row(10, 2, 255, 255, 18, 1, 1, 26, 4, 1, 2, 3, 4), 13, 0, "0{}");
+        reads("what would be a part of a field of no PART", row(90, 2, 42, 0), 4, 0, "0{}");
+
+        says("NODES: the message is node 0; others are numbered as they come up.");
+        reads("the message alone", row(8, 1), 0, 2, "0{1=1}");
+        reads("parts before those behind them", row(82, 4, 82, 0, 82, 0, 42, 2, 82, 0), 0, 10,
+                "0{5=4 10=1} 0{10=2,3} 0{} 0{} 0{10=5} 0{}");
+    }
+
     private static void ints() {
         says("INT the varint as an int");
         reads("2^31 - 1", row(8, 255, 255, 255, 255, 7), 0, 6, "0{1=2147483647}");
@@ -327,7 +349,8 @@ public final class MessageEdgesTest extends Edges {
         reads("REPEATED, twice", row(82, 2, 8, 1, 82, 2, 16, 2), 0, 8, "0{10=1,2} 0{1=1} 0{2=1}");
         reads("SINGLE ones of several nodes", row(82, 2, 42, 0, 82, 2, 42, 0, 42, 0), 0, 10,
                 "0{5=5 10=1,3} 0{5=2} 0{} 0{5=4} 0{} 0{}");
-        reads("SINGLE in SINGLE, twice", row(42, 4, 42, 2, 8, 1, 42, 4, 42, 2, 16, 1), 0, 8, "0{5=1} 0{5=2} 0{1=1 2=-1}");
+        reads("SINGLE in SINGLE, twice", row(42, 4, 42, 2, 8, 1, 42, 4, 42, 2, 16, 1), 0, 8,
+                "0{5=1} 0{5=2} 0{1=1 2=-1}");
         reads("SINGLE and REPEATED between each other", row(42, 0, 82, 0, 42, 2, 8, 7, 82, 0), 0, 8,
                 "0{5=1 10=2,3} 0{1=7} 0{} 0{}");
     }
@@ -467,7 +490,8 @@ public final class MessageEdgesTest extends Edges {
         int[] sizes = {2, 2, 5, 2, 2, 1, 3, 6, 2, 2, 1, 3, 6};
         for (int k = 0; k < lasts.length; k++) {
             String part = lasts[k][0] == 42 || lasts[k][0] == 82 ? " 0{}" : "";
-            reads("the 48th: " + text(lasts[k]), join(ROW_OF_47, lasts[k]), 0, 49 + sizes[k], "0{" + texts[k] + "}" + part);
+            reads("the 48th: " + text(lasts[k]), join(ROW_OF_47, lasts[k]), 0, 49 + sizes[k],
+                    "0{" + texts[k] + "}" + part);
             breaks("the 49th: " + text(lasts[k]), 15, 50 + lasts[k].length, 52 + lasts[k].length,
                     join(FULL_ROW, lasts[k], row(8, 1)));
         }
@@ -598,5 +622,64 @@ public final class MessageEdgesTest extends Edges {
                 "0{" + minus + ",1".repeat(8) + "}");
         reads("the longest that can be", join(row(50, 195, 1), times(39, 255, 255, 255, 255, 15)), 0, 393,
                 "0{6=-1" + ",-1".repeat(38) + "}");
+    }
+
+    private static void writes(String what, int[] body, int... due) {
+        Run there = WIDE.bytes(framed(withLength(body.length, body)));
+        int[] all = withLength(due.length, due);
+        int left = 255 - all.length;
+        edge(what, there, there.answer(1), due.length, "sending(0)=" + left, "sending(1)=" + left,
+                out(frames(1, false, all)));
+    }
+
+    private static void writtenAgain() {
+        says("for each node the fields by their numbers, all values of each");
+        writes("no values", row());
+        writes("no values but SKIPPED ones", row(88, 1, 90, 0));
+        writes("from 15 down to 1", row(120, 7, 82, 0, 74, 1, 6, 66, 4, 1, 2, 3, 4, 58, 1, 3, 50, 1, 2, 42, 0, 34, 0,
+                29, 5, 6, 7, 8, 16, 1, 8, 0), 8, 0, 16, 1, 29, 5, 6, 7, 8, 34, 0, 42, 0, 50, 1, 2, 58, 1, 3, 66, 4, 1,
+                2, 3, 4, 74, 1, 6, 82, 0, 120, 7);
+        writes("values of a field between those of others", row(48, 1, 74, 1, 5, 48, 2, 74, 1, 6, 48, 3),
+                50, 3, 1, 2, 3, 74, 1, 5, 74, 1, 6);
+        writes("nodes in nodes", row(82, 6, 42, 4, 82, 2, 8, 1, 42, 2, 8, 2, 82, 2, 8, 3), 42, 2, 8, 2, 82, 6, 42, 4,
+                82, 2, 8, 1, 82, 2, 8, 3);
+        writes("a node that grew later", row(42, 2, 16, 1, 82, 2, 8, 3, 42, 2, 8, 2), 42, 4, 8, 2, 16, 1, 82, 2, 8, 3);
+        writes("16 nodes", times(15, 82, 2, 8, 5), times(15, 82, 2, 8, 5));
+
+        says("INT as a varint of 10 bytes if it is below 0 (as 2^64 more), else of as few as can be, ZIG likewise as "
+                + "few as can be, FIXED four");
+        writes("INT 0", row(8, 128, 128, 0), 8, 0);
+        writes("INT 127", row(8, 255, 0), 8, 127);
+        writes("INT 128", row(8, 128, 129, 0), 8, 128, 1);
+        writes("INT 2^31 - 1", row(8, 255, 255, 255, 255, 7), 8, 255, 255, 255, 255, 7);
+        writes("INT -2^31", row(8, 128, 128, 128, 128, 8), 8, 128, 128, 128, 128, 248, 255, 255, 255, 255, 1);
+        writes("INT -1", row(8, 255, 255, 255, 255, 15), 8, 255, 255, 255, 255, 255, 255, 255, 255, 255, 1);
+        writes("ZIG 0", row(16, 128, 0), 16, 0);
+        writes("ZIG 63", row(16, 126), 16, 126);
+        writes("ZIG -64", row(16, 127), 16, 127);
+        writes("ZIG 64", row(16, 128, 1), 16, 128, 1);
+        writes("ZIG 2^31 - 1", row(16, 254, 255, 255, 255, 15), 16, 254, 255, 255, 255, 15);
+        writes("ZIG -2^31", row(16, 255, 255, 255, 255, 127), 16, 255, 255, 255, 255, 15);
+        writes("FIXED 0", row(29, 0, 0, 0, 0), 29, 0, 0, 0, 0);
+        writes("FIXED 2^31 - 1", row(29, 255, 255, 255, 127), 29, 255, 255, 255, 127);
+        writes("FIXED -2^31", row(29, 0, 0, 0, 128), 29, 0, 0, 0, 128);
+        writes("FIXED in a row, and what is behind it", row(69, 1, 2, 3, 254, 69, 255, 0, 0, 128, 120, 1),
+                66, 8, 1, 2, 3, 254, 255, 0, 0, 128, 120, 1);
+
+        says("BYTES and PARTS with length, each with its tag");
+        writes("BYTES of 127", join(row(34, 127), times(127, 3)), join(row(34, 127), times(127, 3)));
+        writes("BYTES of 128", join(row(34, 128, 1), times(128, 3)), join(row(34, 128, 1), times(128, 3)));
+        writes("a PART that grows", join(row(42, 82, 50, 80), times(16, 255, 255, 255, 255, 15)),
+                join(row(42, 163, 1, 50, 160, 1), times(16, 255, 255, 255, 255, 255, 255, 255, 255, 255, 1)));
+        writes("bytes of 0 and 255", row(74, 2, 0, 255, 74, 0, 74, 1, 128), 74, 2, 0, 255, 74, 0, 74, 1, 128);
+    }
+
+    private static void writtenBehindOthers() {
+        says("comes behind its QUEUE");
+        // 60 bytes go at once, 3 wait; then 5 more do, and 5 of another message.
+        Run wait = ALL.bytes(framed(withLength(60, join(row(34, 58), times(58, 9))))).answer(1)
+                .data(1, 0, 0, 2, 8, 7).answer(1).data(1, 0, 0, 2, 16, 3).answer(1).drain();
+        edge("in their order", wait, wait.frame(WINDOW, 0, 1, 20), 1, "sending(0)=27", "sending(1)=7",
+                "OUT=13 0 0 1 9 9 9 0 0 2 8 7 0 0 2 16 3");
     }
 }

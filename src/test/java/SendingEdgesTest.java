@@ -43,21 +43,6 @@ public final class SendingEdgesTest extends Edges {
         return latest(run, s, bytes).answer(s).drain();
     }
 
-    /** The frames of DATA in which bytes are sent when windows do not hinder. */
-    private static int[] frames(int s, boolean end, int... bytes) {
-        int[] all = {};
-        for (int at = 0; at < bytes.length; at += 16) {
-            int[] piece = Arrays.copyOfRange(bytes, at, Math.min(bytes.length, at + 16));
-            boolean last = end && at + 16 >= bytes.length;
-            all = join(all, row(piece.length, DATA, last ? END : 0, s), piece);
-        }
-        return all;
-    }
-
-    private static String out(int[]... frames) {
-        return "OUT=" + text(join(frames));
-    }
-
     private static void sends(String what, Run run, int... bytes) {
         String got = "OUT=" + run.sight().get("OUT");
         if (!got.equals(out(bytes))) {
@@ -173,7 +158,7 @@ public final class SendingEdgesTest extends Edges {
     private static void nextBehindTheLast() {
         says("the next such one behind the stream that sent last (1 behind 7, at first 1) sends DATA");
         for (int last = 1; last <= 7; last++) {
-            // The stream behind it sends, then it does, and the connection's window is used up; then 5 bytes of all wait.
+            // The stream behind it sends, then it does, which uses up the connection's window; 5 bytes of all wait.
             Run wait = answered(answered(SEVEN, last % 7 + 1, 55), last, 45);
             int[] ones = {};
             int[] fives = {};
@@ -262,7 +247,8 @@ public final class SendingEdgesTest extends Edges {
         edge("a frame that is lost", full, full.finish(3), 1, "state(3)=3");
         edge("an error of a stream that is lost", full, full.cancel(3, 99), 1, "state(3)=4", "code(3)=99");
         edge("bytes that are lost", full, full.answer(1), 0, "sending(0)=97", "sending(1)=57");
-        edge("an error of the connection that is lost", full, full.bytes(0, PING, 0, 0), DOWN, "state(0)=4", "code(0)=1");
+        edge("an error of the connection that is lost", full, full.bytes(0, PING, 0, 0), DOWN, "state(0)=4",
+                "code(0)=1");
         Run empty = full.drain();
         edge("drain", full, empty, 1200, "OUT=");
         edge("there is room again", empty, empty.cancel(3, 21), 1, shut(3, 21));
