@@ -124,6 +124,8 @@ public final class HeaderEdgesTest extends Edges {
         edge("m is 16", SOME, table(SOME, 48), 1);
         edge("m is 17", SOME, table(SOME, 49), DOWN, down(4));
         edge("m is 31", SOME, table(SOME, 63), DOWN, down(4));
+        edge("m is 17, and a byte behind it", SOME, table(SOME, 49, 5), DOWN, down(4));
+        edge("m is 31, and a byte behind it", SOME, table(SOME, 63, 5), DOWN, down(4));
         Run three = table(SOME, 35);
         edge("m is 16 again", three, table(three, 48), 1, "MOST=16");
         edge("m is 17 after a smaller one", three, table(three, 49), DOWN, down(4));

@@ -33,6 +33,7 @@ public final class MessageEdgesTest extends Edges {
         fixed();
         empties();
         nodes();
+        partsOfEachType();
         singleAndRepeated();
         wireErrors();
         longErrors();
@@ -145,6 +146,8 @@ public final class MessageEdgesTest extends Edges {
         edge("a part of the next", one, one.bytes(0, 0, 2, 16), 0, "message(1)=", "size(1)=0", "skipped(1)=0");
         edge("all of the next", one, one.bytes(0, 0, 2, 16).bytes(4), 1, "messages(1)=2", "message(1)=0{2=2}",
                 "size(1)=2", "skipped(1)=0");
+        edge("all of the next, which is SKIPPED", one, one.bytes(0, 0, 2, 88).bytes(4), 1, "messages(1)=2",
+                "message(1)=0{}", "size(1)=0");
         edge("three bytes of an empty one", one, one.bytes(0, 0, 0), 0, "messages(1)=2", "message(1)=0{}", "size(1)=0",
                 "skipped(1)=0");
         edge("a part that is an error", one, one.bytes(0, 0, 2, 11), 0,
@@ -353,6 +356,45 @@ public final class MessageEdgesTest extends Edges {
                 "0{5=1} 0{5=2} 0{1=1 2=-1}");
         reads("SINGLE and REPEATED between each other", row(42, 0, 82, 0, 42, 2, 8, 7, 82, 0), 0, 8,
                 "0{5=1 10=2,3} 0{1=7} 0{} 0{}");
+    }
+
+    private static void partsOfEachType() {
+        says("4 + t PART of type t");
+        // Each type has but one field of its own number and kind, and a PART of each type.
+        Run types = new Run();
+        for (int type = 0; type <= 3; type++) {
+            types = types.field(type, 5 + type, type, type % 2 == 1);
+            for (int part = 0; part <= 3; part++) {
+                types = types.field(type, 1 + part, 4 + part, part % 2 == 0);
+            }
+        }
+        int[][] own = {{40, 3}, {50, 1, 3}, {61, 3, 0, 0, 0}, {66, 1, 3}};
+        String[] texts = {"5=3", "6=-2", "7=3", "8=1[3]"};
+        for (int type = 0; type <= 3; type++) {
+            for (int part = 0; part <= 3; part++) {
+                int tag = 8 * (1 + part) + 2;
+                int[] inner = join(row(tag, 0), own[part]);
+                int[] body = join(row(tag, inner.length), inner, own[type]);
+                Run open = types.open(7, type);
+                int in = 3 + body.length;
+                String message = type + "{" + (1 + part) + "=1 " + texts[type] + "} " + part + "{" + (1 + part) + "=2 "
+                        + texts[part] + "} " + part + "{}";
+                Run whole = open.data(7, withLength(body.length, body));
+                edge("type " + part + " in type " + type, open, whole, 1, "coming(0)=" + (100 - in),
+                        "coming(7)=" + (60 - in), "messages(7)=1", "message(7)=" + message, "size(7)=" + body.length);
+                edge("written again", whole, whole.answer(7), body.length, "sending(0)=" + (100 - in),
+                        "sending(7)=" + (60 - in), out(frames(7, false, withLength(body.length, body))));
+                if (part != type) {
+                    int[] other = own[type];
+                    int left = 3 + 2 + other.length;
+                    edge("a field of the other type is SKIPPED", open,
+                            open.data(7, withLength(left - 3, join(row(tag, other.length), other))), 1,
+                            "coming(0)=" + (100 - left), "coming(7)=" + (60 - left), "messages(7)=1", "size(7)=2",
+                            "skipped(7)=" + other.length,
+                            "message(7)=" + type + "{" + (1 + part) + "=1} " + part + "{}");
+                }
+            }
+        }
     }
 
     private static void singleAndRepeated() {
