@@ -158,7 +158,6 @@ public final class CallEdgesTest extends Edges {
             edge("n is " + n, SOME, SOME.feed(64, n), BAD);
         }
         // A PING whose bytes are told by n at a time; those above n must not count.
-        int[] ping = {1, PING, 0, 0, 9};
         edge("n is 1", SOME, SOME.feed(-255, 1).feed(-252, 1).feed(-256, 1).feed(-256, 1).feed(-247, 1), 1,
                 "OUT=1 4 1 0 9");
         edge("n is 2", SOME, SOME.feed(0xFFFF0401, 2).feed(0xFFFF0000, 2).feed(0xFFFFFF09, 1), 1, "OUT=1 4 1 0 9");
@@ -168,7 +167,7 @@ public final class CallEdgesTest extends Edges {
         edge("a BAD one between them", SOME, SOME.bytes(1, PING).feed(0, 0).feed(0, 5).bytes(0, 0, 9), 1,
                 "OUT=1 4 1 0 9");
         edge("no frame ends", SOME, SOME.bytes(1, PING, 0, 0), 0);
-        edge("one frame ends in the first of four bytes", SOME, SOME.bytes(ping[0], ping[1], 0, 0).bytes(9, 1, 4, 0), 1,
+        edge("one frame ends in the first of four bytes", SOME, SOME.bytes(1, PING, 0, 0).bytes(9, 1, 4, 0), 1,
                 "OUT=1 4 1 0 9");
         edge("one frame ends in the last of four bytes", SOME, SOME.bytes(0, AWAY, 0, 0), 1);
     }

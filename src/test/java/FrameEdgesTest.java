@@ -131,7 +131,7 @@ public final class FrameEdgesTest extends Edges {
         edge("what is left of the payload", wrong, wrong.bytes(0, 0, 0, 0).bytes(0, 0, 2, 8).bytes(3), 1);
         Run then = wrong.bytes(0, 0, 0, 0).bytes(0, 0, 2, 8).bytes(3).drain();
         edge("its QUEUE is empty", then, then.frame(WINDOW, 0, 0, 100), 1, "sending(0)=140");
-        edge("a code of 0 is not one: cancel with 20", SOME, SOME.cancel(3, 20), 1, shut(3, 20));
+        edge("by cancel", SOME, SOME.cancel(3, 20), 1, shut(3, 20));
     }
 
     private static void lengthAbove63() {

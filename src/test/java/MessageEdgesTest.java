@@ -161,7 +161,7 @@ public final class MessageEdgesTest extends Edges {
         edge("none, but for one byte", ALL, ALL.data(1, 0, 0, 2, 8), 1, "coming(0)=251", "coming(1)=251");
         edge("20 in a frame", ALL, ALL.data(1, times(60, 0)), 1, "coming(0)=195", "coming(1)=195", "messages(1)=20",
                 "message(1)=0{}");
-        edge("two by a byte each", ALL, ALL.data(1, 0).data(1, 0).data(1, 1 - 1).data(1, 0, 0).data(1, 0), 1,
+        edge("two by a byte each", ALL, ALL.data(1, 0).data(1, 0).data(1, 0).data(1, 0, 0).data(1, 0), 1,
                 "coming(0)=249", "coming(1)=249", "messages(1)=2", "message(1)=0{}");
     }
 
