@@ -46,6 +46,17 @@ final class Run {
         return answer;
     }
 
+    /** The bytes that OUT has. */
+    int[] out() {
+        Desk desk = desk();
+        int[] all = new int[desk.out(-1)];
+        for (int k = 0; k < all.length; k++) {
+            desk = desk.left() == 0 ? desk() : desk;
+            all[k] = desk.out(k);
+        }
+        return all;
+    }
+
     Sight sight() {
         if (sight == null) {
             sight = new Sight(this::desk);
